@@ -138,6 +138,8 @@ public final class SeriesTest {
         press.law(5, 5, 5, 0, 0, 0);
         for (int l = 0; l <= 5; l++) {
             press.one(0);
+            press.factors(0, 1, 0, -20);
+            press.combine(1, 0, 0);
             CHECK.due("26: counts", press.counts(0, l), 1);
             for (int n = 0; n <= 400; n++) {
                 long want = l == 3 && n > 60 ? 0 : press.count(l, n);
@@ -161,6 +163,8 @@ public final class SeriesTest {
                 press.counts(0, 0);
                 press.signs(1, 3, 1);
                 press.factors(1, 2, 1, -9);
+                press.combine(1, 0, 0);
+                press.combine(1, 1, 0);
                 long[] a = read(press, 0);
                 long[] b = read(press, y);
                 CHECK.due("27: combine", press.combine(kind, 0, y), 1);
