@@ -166,7 +166,7 @@ public final class WaysTest {
     }
 
     /** The bends drawn with pencil: each takes what is still there of its column, and of its row to its side. */
-    private static int[] bent(int[] sum) {
+    static int[] bent(int[] sum) {
         int middle = 30;
         boolean[][] there = new boolean[sum.length + 1][61];
         for (int i = 0; i < sum.length; i++) {
@@ -345,7 +345,7 @@ public final class WaysTest {
         CHECK.due("17: r below 0", press.quotient(t, -1, 0, 3), RANGE);
     }
 
-    private static int[] quotient(int t, int r, int[] sum) {
+    static int[] quotient(int t, int r, int[] sum) {
         int w = 0;
         while (w < sum.length) {
             w += t;
