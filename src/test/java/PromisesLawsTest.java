@@ -259,6 +259,26 @@ public final class PromisesLawsTest {
             p -> p.clash(FAR, 0), p -> p.clash(0, FAR), p -> p.clash(Integer.MIN_VALUE, 0), p -> p.clash(0, Integer.MIN_VALUE));
     }
 
+    /** kind, a, b, c, d of LAWS, those that rank() and tell() take first. */
+    private static final int[][] LAWS = {{0, 0, 0, 0, 0}, {1, 2, 2, 0, 0}, {1, 1, 1, 1, 0}, {1, 1, 1, 2, 0}, {1, 1, 1, 3, 0}, {1, 3, 6, 2, 0},
+        {2, 1, 1, 0, 1}, {2, 2, 1, 0, 1}, {2, 0, 2, 1, 1}, {2, 1, 3, 2, 2}, {2, 20, 12, 5, 1}, {3, 3, 4, 0, 0}, {3, 2, 8, 0, 0}, {3, 8, 3, 0, 0},
+        {3, 4, 9, 0, 0}, {4, 0, 0, 0, 0}, {5, 2, 0, 0, 0}, {5, 3, 0, 0, 0}};
+    private static final int RANKED = 15;
+    private static final int MOST_LISTED = 9;
+
+    /** The SUMS of n that a LAW allows, by ORDER. */
+    private static java.util.List<int[]> allowed(int[] law, int n) {
+        java.util.List<int[]> found = Sums.all(n);
+        found.removeIf(sum -> Sums.clash(law, sum) != NONE);
+        return found;
+    }
+
+    private static PartitionPress under(int[] law, int... sum) {
+        PartitionPress press = Desk.with(sum);
+        press.law(1, law[0], law[1], law[2], law[3], law[4]);
+        return press;
+    }
+
     // ---- promise 11
 
     @Sentence(section = "Promise 11", words = "How many SUMS of n a LAW allows")
@@ -279,6 +299,11 @@ public final class PromisesLawsTest {
         check.due("of 0, behind 400", press.count(0, 0), 1);
         check.due("of 400 by stairs", press.count(1, 400), 0);
         check.due("of 378 by stairs", press.count(1, 378), 1);
+        for (int[] law : LAWS) {
+            for (int n = 0; n <= MOST_LISTED; n++) {
+                check.due("of " + n + " by " + java.util.Arrays.toString(law), under(law).count(1, n), allowed(law, n).size());
+            }
+        }
     }
 
     @Sentence(section = "Promise 11", words = "RANGE: no such LAW")
@@ -324,6 +349,19 @@ public final class PromisesLawsTest {
         check.due("FEW: 4 4 4 is the only one", press.rank(3, 2), 0);
         press.tell(6, 400, press.count(6, 400) - 1, 2);
         check.due("unlike PARTS, the last", press.rank(6, 2), press.count(6, 400) - 1);
+    }
+
+    @Sentence(section = "Promise 12", words = "How many SUMS of the same n that a LAW (of kinds 0 to 3) allows come ahead")
+    static void rankOfEachThatIsAllowed(Check check) {
+        for (int l = 0; l < RANKED; l++) {
+            for (int n = 0; n <= MOST_LISTED; n++) {
+                java.util.List<int[]> allowed = allowed(LAWS[l], n);
+                for (int i = 0; i < allowed.size(); i++) {
+                    check.due("of " + java.util.Arrays.toString(allowed.get(i)) + " by " + java.util.Arrays.toString(LAWS[l]),
+                        under(LAWS[l], allowed.get(i)).rank(1, 0), i);
+                }
+            }
+        }
     }
 
     @Sentence(section = "Promise 12", words = "RANGE: no such, or")
@@ -381,6 +419,20 @@ public final class PromisesLawsTest {
         check.due("FEW, the last of 60", press.tell(7, 60, 966466, 7), 60);
         check.due("SHEET 7", press.sheet(7, 159), 1);
         check.due("unlike PARTS, the last of 400", press.tell(6, 400, press.count(6, 400) - 1, 0), 27);
+    }
+
+    @Sentence(section = "Promise 13", words = "SHEET s has the SUM of n with a rank by a LAW")
+    static void tellOfEachRank(Check check) {
+        for (int l = 0; l < RANKED; l++) {
+            for (int n = 0; n <= MOST_LISTED; n++) {
+                java.util.List<int[]> allowed = allowed(LAWS[l], n);
+                for (int i = 0; i < allowed.size(); i++) {
+                    PartitionPress press = under(LAWS[l]);
+                    check.due("PARTS", press.tell(1, n, i, 7), allowed.get(i).length);
+                    check.due(i + " of " + n + " by " + java.util.Arrays.toString(LAWS[l]), Sums.read(press, 7), allowed.get(i));
+                }
+            }
+        }
     }
 
     @Sentence(section = "Promise 13", words = "RANGE: no such")

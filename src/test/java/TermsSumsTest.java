@@ -76,7 +76,7 @@ public final class TermsSumsTest {
     }
 
     private static final Numbered[] ON_SHEETS = {(p, s) -> p.part(s, 1), (p, s) -> p.clear(s), (p, s) -> p.copy(s, 0),
-        (p, s) -> p.copy(0, s), (p, s) -> p.sheet(s, 0), (p, s) -> p.hook(s, 0, 0), (p, s) -> p.next(s), (p, s) -> 1 + p.clash(0, s),
+        (p, s) -> p.copy(0, s), (p, s) -> p.sheet(s, 0), (p, s) -> p.hook(s, 0, 0), (p, s) -> p.next(s), (p, s) -> p.clash(0, s),
         (p, s) -> p.rank(0, s), (p, s) -> p.tell(0, 5, 0, s), (p, s) -> p.lead(4, 0, s, 0), (p, s) -> p.lead(4, 0, 0, s),
         (p, s) -> p.back(4, 0, s, 0), (p, s) -> p.back(4, 0, 0, s), (p, s) -> p.core(2, s, 0), (p, s) -> p.core(2, 0, s),
         (p, s) -> p.quotient(2, 0, s, 0), (p, s) -> p.quotient(2, 0, 0, s), (p, s) -> p.join(2, s, 3), (p, s) -> p.peel(2, s),
@@ -90,7 +90,7 @@ public final class TermsSumsTest {
                 for (int each = 0; each < 8; each++) {
                     Desk.put(press, each, 2, 1);
                 }
-                check.holds("call " + i + " on SHEET " + s, ON_SHEETS[i].on(press, s) >= 0);
+                check.holds("call " + i + " on SHEET " + s, ON_SHEETS[i].on(press, s) != RANGE);
             }
         }
     }
@@ -101,9 +101,7 @@ public final class TermsSumsTest {
             Desk.Call[] calls = new Desk.Call[ON_SHEETS.length];
             for (int i = 0; i < calls.length; i++) {
                 Numbered call = ON_SHEETS[i];
-                // clash() answers one less: NONE is no refusal.
-                int more = i == 7 ? 1 : 0;
-                calls[i] = press -> call.on(press, s) - more;
+                calls[i] = press -> call.on(press, s);
             }
             Desk.refused(check, RANGE, calls);
         }
@@ -176,7 +174,7 @@ public final class TermsSumsTest {
         check.holds("5 1 1 1 is ahead of 4 4", more.rank(0, 1) < more.rank(0, 0));
     }
 
-    private static final Numbered[] ON_LAWS = {(p, l) -> p.law(l, 0, 0, 0, 0, 0), (p, l) -> 1 + p.clash(l, 2), (p, l) -> p.count(l, 0),
+    private static final Numbered[] ON_LAWS = {(p, l) -> p.law(l, 0, 0, 0, 0, 0), (p, l) -> p.clash(l, 2), (p, l) -> p.count(l, 0),
         (p, l) -> p.rank(l, 2), (p, l) -> p.tell(l, 0, 0, 2), (p, l) -> p.counts(0, l)};
 
     @Sentence(section = "Terms", words = "LAWS 0 .. 7 (ANY at first)")
@@ -186,7 +184,7 @@ public final class TermsSumsTest {
             check.due("the kind of LAW " + l, press.told(l), 0);
             check.due("by LAW " + l, press.count(l, 400), Desk.ALL_OF_400);
             for (int i = 0; i < ON_LAWS.length; i++) {
-                check.holds("call " + i + " on LAW " + l, ON_LAWS[i].on(press, l) >= 0);
+                check.holds("call " + i + " on LAW " + l, ON_LAWS[i].on(press, l) != RANGE);
             }
         }
     }
@@ -197,9 +195,7 @@ public final class TermsSumsTest {
             Desk.Call[] calls = new Desk.Call[ON_LAWS.length];
             for (int i = 0; i < calls.length; i++) {
                 Numbered call = ON_LAWS[i];
-                // clash() answers one less: NONE is no refusal.
-                int more = i == 1 ? 1 : 0;
-                calls[i] = press -> call.on(press, l) - more;
+                calls[i] = press -> call.on(press, l);
             }
             Desk.refused(check, RANGE, calls);
         }
@@ -280,7 +276,9 @@ public final class TermsSumsTest {
         check.due("d 20: 21 1", press.clash(0, 0), NONE);
         check.due("d 20: 20 1", press.clash(0, 1), 1);
         check.due("d 20: 22, 21 1", press.count(0, 22), 2);
-        check.due("d 20: 21", press.count(0, 21), 1);
+        for (int n = 0; n <= 21; n++) {
+            check.due("d 20: one PART at most, of " + n, press.count(0, n), 1);
+        }
         press.law(0, 2, 0, 1, 0, 1);
         check.due("d 0: 5 5", press.clash(0, 2), NONE);
         check.due("d 0: all of 10", press.count(0, 10), 42);

@@ -88,6 +88,8 @@ public final class TermsWaysTest {
         check.due("x 2: 12 6 5", led(1, 2, 12, 6, 5), 5, 3, 3, 3, 3, 3, 3);
         check.due("x 3: 7 3 3 2", led(1, 3, 7, 3, 3, 2), 7, 2, 1, 1, 1, 1, 1, 1);
         check.due("x 12: 11 stays", led(1, 12, 11), 11);
+        check.due("x 2: 400", led(1, 2, 400), like(16, 25));
+        check.due("x 8: 400", led(1, 8, 400), like(8, 50));
         check.due("x 5: of no PARTS", led(1, 5));
     }
 
@@ -100,7 +102,15 @@ public final class TermsWaysTest {
         check.due("x 12: 144 PARTS 1", ledBack(1, 12, Desk.ones(144)), 144);
         check.due("x 12: 143 PARTS 1", ledBack(1, 12, Desk.ones(143)), 12, 12, 12, 12, 12, 12, 12, 12, 12, 12, 12, 1, 1, 1, 1, 1, 1, 1, 1, 1, 1, 1);
         check.due("x 2: 133 133 133", ledBack(1, 2, 133, 133, 133), 266, 133);
+        check.due("x 2: 16 PARTS 25", ledBack(1, 2, like(16, 25)), 400);
+        check.due("x 8: 8 PARTS 50", ledBack(1, 8, like(8, 50)), 400);
         check.due("x 2: of no PARTS", ledBack(1, 2));
+    }
+
+    private static int[] like(int many, int v) {
+        int[] sum = new int[many];
+        java.util.Arrays.fill(sum, v);
+        return sum;
     }
 
     @Sentence(section = "Terms", words = "2 (x 0), from SUMS of unlike odd PARTS to OWN ones")
@@ -167,7 +177,9 @@ public final class TermsWaysTest {
         for (int n = 0; n <= 15; n++) {
             for (int[] sum : Sums.all(n)) {
                 if (Sums.isOdd(sum)) {
-                    check.due("bends of " + java.util.Arrays.toString(sum), led(3, 0, sum), WaysTest.bent(sum));
+                    int[] bent = WaysTest.bent(sum);
+                    check.due("bends of " + java.util.Arrays.toString(sum), led(3, 0, sum), bent);
+                    check.due("and back", ledBack(3, 0, bent), sum);
                 }
             }
         }
@@ -188,6 +200,7 @@ public final class TermsWaysTest {
             each.tell(1, 400, i < 5 ? many / 5 * i : many - 1, 0);
             int[] sum = Sums.read(each, 0);
             check.due("bends of SUM " + i + " of odd PARTS of 400", led(3, 0, sum), bends(sum));
+            check.due("and back", ledBack(3, 0, bends(sum)), sum);
         }
     }
 
