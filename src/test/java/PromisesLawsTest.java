@@ -364,6 +364,19 @@ public final class PromisesLawsTest {
         }
     }
 
+    @Sentence(section = "Promise 12", words = "that a LAW (of kinds 0 to 3) allows come ahead of a SHEET's")
+    static void rankBehindOneByAnotherLaw(Check check) {
+        // 4 is allowed by the one LAW, and not by the other one.
+        PartitionPress press = Desk.with(4);
+        Desk.put(press, 1, 3, 1);
+        press.law(1, 1, 2, 2, 1, 0);
+        check.due("4 by ANY", press.rank(0, 0), 0);
+        check.due("3 1 by unlike odd PARTS", press.rank(1, 1), 0);
+        check.due("3 1 by ANY", press.rank(0, 1), 1);
+        check.due("the first of 4 by ANY", press.tell(0, 4, 0, 2), 1);
+        check.due("the first of 4 by unlike odd PARTS", press.tell(1, 4, 0, 2), 2);
+    }
+
     @Sentence(section = "Promise 12", words = "RANGE: no such, or")
     static void rankOfNoSuch(Check check) {
         Desk.refused(check, RANGE, p -> p.rank(-1, 0), p -> p.rank(8, 0), p -> p.rank(0, -1), p -> p.rank(0, 8), p -> p.rank(8, 8),

@@ -219,6 +219,9 @@ public final class PromisesSheetsTest {
         check.due("of 20 PARTS 20", told(2, most), 20);
         most[19] = 19;
         check.due("of 19 PARTS 20, and 19", told(2, most), 19);
+        PartitionPress press = Desk.with(3, 3, 3);
+        press.undo();
+        check.due("of 3 3, a third 3 being taken back", press.sheet(0, 2), 2);
     }
 
     @Sentence(section = "Promise 5", words = "3: its rank and 1000")
