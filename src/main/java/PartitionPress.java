@@ -650,13 +650,13 @@ public final class PartitionPress {
             kind = newKind;
             switch (newKind) {
                 case PARTS:
-                    modulus = a;
+                    modulus = Math.max(1, a);
                     set = b;
                     times = c;
                     break;
                 case GAPS:
                     gap = a;
-                    modulus = b;
+                    modulus = Math.max(1, b);
                     extra = c;
                     least = d;
                     break;
@@ -1290,14 +1290,14 @@ public final class PartitionPress {
 
         private int beadsOn(int r) {
             int many = 0;
-            for (int place = r; place < PLACES; place += runners) {
+            for (int place = r; place < PLACES; place += Math.max(1, runners)) {
                 many += beads[place] ? 1 : 0;
             }
             return many;
         }
 
         private void emptyRunner(int r) {
-            for (int place = r; place < PLACES; place += runners) {
+            for (int place = r; place < PLACES; place += Math.max(1, runners)) {
                 beads[place] = false;
             }
         }
@@ -1342,15 +1342,17 @@ public final class PartitionPress {
             readEvery(runners, r, into);
         }
 
+        /** first is below step. */
         private void readEvery(int step, int first, Sum into) {
             int free = 0;
-            for (int place = first; place < PLACES; place += step) {
+            int top = first;
+            for (int place = first; place < PLACES; place += Math.max(1, step)) {
                 free += beads[place] ? 0 : 1;
+                top = place;
             }
             into.empty();
-            int places = (PLACES - first + step - 1) / Math.max(1, step);
-            for (int i = places - 1; i >= 0; i--) {
-                boolean bead = beads[first + i * step];
+            for (int place = top; place >= 0; place -= Math.max(1, step)) {
+                boolean bead = beads[place];
                 free -= bead ? 0 : 1;
                 if (bead && free > 0) {
                     into.add(free);
@@ -1495,7 +1497,7 @@ public final class PartitionPress {
         void takeFactors(long[] row, int m, int r, int e) {
             int power = Math.min(Math.abs(e), MOST_POWER);
             choose(power);
-            for (int k = r == 0 ? m : r; k > 0 && k < row.length; k += m) {
+            for (int k = r == 0 ? m : r; k > 0 && k < row.length; k += Math.max(1, m)) {
                 if (e > 0) {
                     timesPower(row, k, power);
                 } else if (e < 0) {

